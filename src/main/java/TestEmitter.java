@@ -774,7 +774,7 @@ public final class TestEmitter {
             }
             int indent = BODY_INDENT + start - from;
             int blanks = indent;
-            while (blanks + end - start > width) {
+            while (start < end && blanks + end - start > width) {
                 int comma = lastComma(body, start, end, width - blanks);
                 if (comma <= start) {
                     break;

@@ -19,6 +19,7 @@ public final class LiteralTest {
         arraysOfEveryName();
         objects();
         objectsInObjects();
+        objectsInTheResult();
         arraysAndObjectsMixed();
         Check.end();
     }
@@ -54,6 +55,8 @@ public final class LiteralTest {
     private static void ints() {
         due("I", "0", 0);
         due("I", "9", 9);
+        due("I", "-9", -9);
+        due("I", "-99", -99);
         due("I", "10", 10);
         due("I", "-10", -10);
         due("I", "2147483647", MAX);
@@ -198,6 +201,13 @@ public final class LiteralTest {
         Check.due("the objects around are counted for each value", h.onlyBody(),
             "Target.run(new C3(new C3(new C3(new C3(null, null), new C3(null, null)), new C3(null, new C3(null, null))),\n"
             + "        null));\n");
+    }
+
+    private static void objectsInTheResult() {
+        Harness h = new Harness(120).fields(0, "O0").result("O0");
+        h.returned(1, 1, 1, 1, 1);
+        Check.due("the fifth object of the RESULT is null", h.onlyBody(),
+            "assertEquals(new C0(new C0(new C0(new C0(null)))), Target.run());\n");
     }
 
     private static void arraysAndObjectsMixed() {

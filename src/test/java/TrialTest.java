@@ -155,6 +155,9 @@ public final class TrialTest {
             Harness h = withBodyOf(length);
             Check.due("returned() of " + length, h.emitter.returned(), length <= 300 ? 0 : -5);
             Check.due("count(0) after " + length, h.emitter.count(0), length <= 300 ? 1 : 0);
+            Harness asserted = withBodyOf(length - "assertTrue()".length()).result("Z");
+            asserted.emitter.data(1);
+            Check.due("returned() of a Z of " + length, asserted.emitter.returned(), length <= 300 ? 0 : -5);
             // "try {", 2 times 4 blanks, fail, catch, "}" and four more line ends are 43 with the NAME twice.
             Harness t = withBodyOf(length - 43);
             Check.due("threw() of " + length, t.threw("E"), length <= 300 ? 0 : -5);

@@ -11,6 +11,7 @@ public final class TypedTextTest {
         typeRefusesBeforeItIsFull();
         rowsAreTaken();
         otherRowsAreBad();
+        lettersAlone();
         badLeavesTheFormerRow();
         fieldsRefusesOtherClasses();
         fieldsAreEachClassesOwn();
@@ -66,6 +67,19 @@ public final class TypedTextTest {
             h.typed(row);
             Check.due("fields(0) of " + row, h.emitter.fields(0), -3);
             Check.due("count(1) after fields(0) of " + row, h.emitter.count(1), 0);
+        }
+    }
+
+    private static void lettersAlone() {
+        for (int c = 0; c <= 127; c++) {
+            TestEmitter x = new TestEmitter(40);
+            x.type(c);
+            Check.due("parameters() of the character " + c, x.parameters(), "ZBCSIJFDT".indexOf(c) >= 0 ? 1 : -3);
+            x.type(c);
+            Check.due("result() of the character " + c, x.result(), "ZBCSIJFDTV".indexOf(c) >= 0 ? 0 : -3);
+            x.type('O');
+            x.type(c);
+            Check.due("fields(0) of O and the character " + c, x.fields(0), c >= '0' && c <= '3' ? 1 : -3);
         }
     }
 
