@@ -5,15 +5,12 @@ import java.lang.reflect.Modifier;
 import java.util.Set;
 import java.util.TreeSet;
 
-/** The public face, and promise 1: a new object. */
+/** The public face, how long an object serves, and promise 1: a new object. */
 public final class FaceTest {
     public static void main(String[] args) {
         faceIsTheDocuments();
         constantsHaveTheirValues();
-        newObjectIsEmpty();
-        widthIsClamped();
-        objectsAreApart();
-        Check.end();
+        Check.sentences(FaceTest.class);
     }
 
     private static void faceIsTheDocuments() {
@@ -46,60 +43,91 @@ public final class FaceTest {
         Check.due("LONG", TestEmitter.LONG, -5);
     }
 
-    private static void newObjectIsEmpty() {
-        TestEmitter x = new TestEmitter(80);
-        for (int what = 0; what <= 7; what++) {
-            Check.due("count(" + what + ") of a new object", x.count(what), 0);
+    @Sentence(promise = 1, under = "What it is", says = "An object is used for at most 512 calls after it has been made;")
+    static void call512IsAnsweredAsDue() {
+        Harness h = new Harness(40).withParameters("I");
+        int added = 0;
+        while (h.callsLeft() > 4) {
+            h.clear();
+            h.data(h.callsLeft());
+            if (added == 20) {
+                Check.due("drop() with " + h.callsLeft() + " calls left", h.drop(), 20);
+                added = 0;
+            } else {
+                Check.due("returned() with " + h.callsLeft() + " calls left", h.returned(), added++);
+            }
         }
-        Check.due("at(0) of a new object", x.at(0), -1);
-        Check.due("line(0) of a new object", x.line(0), -1);
-        Check.due("taken() of a new object", x.taken(), -1);
-        Check.due("clear() of a new object", x.clear(), 0);
-        Check.due("drop() of a new object", x.drop(), 0);
-        Check.due("PARAMETERS and RESULT of a new object", Harness.bodyOf("", "V"), "Target.run();\n");
-        Check.due("FIELDS of a new object", Harness.literalOf("[O3", 1), "new C3[] {new C3()}");
+        while (h.callsLeft() > 2) {
+            h.clear();
+        }
+        int length = h.emit();
+        Check.due("the 512th call", h.at(length - 1), '\n');
     }
 
-    private static void widthIsClamped() {
-        for (int width : new int[] {Integer.MIN_VALUE, -1, 0, 39, 40}) {
-            Check.due("width " + width + ", a line of 40", brokenShort(width, 1000000), 0);
-            Check.due("width " + width + ", a line of 41", brokenShort(width, 10000000), 1);
+    @Sentence(promise = 1, says = "width: WIDTH, clamped to 40 .. 120.")
+    static void widthBelow40Is40() {
+        for (int width : new int[] {Integer.MIN_VALUE, Integer.MIN_VALUE + 1, -1, 0, 1, 39, 40}) {
+            Check.due("width " + width + ", broken of a line of 40", brokenShort(width, 1000000), 0);
+            Check.due("width " + width + ", broken of a line of 41", brokenShort(width, 10000000), 1);
         }
-        Check.due("width 41, a line of 41", brokenShort(41, 10000000), 0);
-        Check.due("width 41, a line of 42", brokenShort(41, 100000000), 1);
-        Check.due("width 119, a line of 119", brokenLong(119, 10), 0);
-        Check.due("width 119, a line of 120", brokenLong(119, 100), 1);
-        for (int width : new int[] {120, 121, 999, Integer.MAX_VALUE}) {
-            Check.due("width " + width + ", a line of 120", brokenLong(width, 100), 0);
-            Check.due("width " + width + ", a line of 121", brokenLong(width, 1000), 1);
+        Check.due("width 41, broken of a line of 41", brokenShort(41, 10000000), 0);
+        Check.due("width 41, broken of a line of 42", brokenShort(41, 100000000), 1);
+    }
+
+    @Sentence(promise = 1, says = "width: WIDTH, clamped to 40 .. 120.")
+    static void widthAbove120Is120() {
+        Check.due("width 119, broken of a line of 119", brokenLong(119, 10), 0);
+        Check.due("width 119, broken of a line of 120", brokenLong(119, 100), 1);
+        for (int width : new int[] {120, 121, 999, 65576, Integer.MAX_VALUE}) {
+            Check.due("width " + width + ", broken of a line of 120", brokenLong(width, 100), 0);
+            Check.due("width " + width + ", broken of a line of 121", brokenLong(width, 1000), 1);
         }
     }
 
     /** How many lines are broken off a body line of 33 characters, with the 8 blanks, and the last int's. */
     private static int brokenShort(int width, int last) {
-        Harness h = new Harness(width).parameters("II");
-        h.returned(1000000000, last);
-        h.emitter.emit();
-        return h.emitter.count(6);
+        return broken(new Harness(width).withParameters("II").withData(1000000000, last));
     }
 
     /** How many lines are broken off a body line of 117 characters, with the 8 blanks, and the last int's. */
     private static int brokenLong(int width, int last) {
         int n = 1000000000;
-        Harness h = new Harness(width).parameters("[I[II");
-        h.returned(3, n, n, n, 3, n, n, n, last);
-        h.emitter.emit();
-        return h.emitter.count(6);
+        return broken(new Harness(width).withParameters("[I[II").withData(3, n, n, n, 3, n, n, n, last));
     }
 
-    private static void objectsAreApart() {
-        TestEmitter one = new TestEmitter(40);
-        TestEmitter other = new TestEmitter(40);
-        one.type('I');
-        one.data(1);
-        one.returned();
-        Check.due("typed in the other object", other.count(1), 0);
-        Check.due("DATA in the other object", other.count(2), 0);
-        Check.due("TESTS in the other object", other.count(0), 0);
+    private static int broken(Harness h) {
+        h.returned();
+        h.emit();
+        return h.count(6);
+    }
+
+    @Sentence(promise = 1, says = "Nothing typed,")
+    static void newObjectHasNothingTyped() {
+        Check.due("count(1) of a new object", new Harness(40).count(1), 0);
+        Check.due("the first type()", new Harness(40).type('I'), 1);
+        Check.due("parameters() of a new object", new Harness(40).parameters(), 0);
+        Check.due("threw() of a new object", new Harness(40).threw(), -3);
+        Harness other = new Harness(40).typed("I");
+        Check.due("count(1) of a new object beside one with a letter", new Harness(40).count(1), other.count(1) - 1);
+    }
+
+    @Sentence(promise = 1, says = "no DATA and TESTS;")
+    static void newObjectHasNoDataAndTests() {
+        Check.due("count(2) of a new object", new Harness(40).count(2), 0);
+        Check.due("clear() of a new object", new Harness(40).clear(), 0);
+        Check.due("the first data()", new Harness(40).data(0), 1);
+        Check.due("count(0) of a new object", new Harness(40).count(0), 0);
+        Check.due("count(7) of a new object", new Harness(40).count(7), 0);
+        Check.due("drop() of a new object", new Harness(40).drop(), 0);
+        Check.due("the first returned()", new Harness(40).returned(), 0);
+    }
+
+    @Sentence(promise = 1, says = "THE TEXT is empty.")
+    static void newObjectsTextIsEmpty() {
+        for (int what = 3; what <= 6; what++) {
+            Check.due("count(" + what + ") of a new object", new Harness(40).count(what), 0);
+        }
+        Check.due("at(0) of a new object", new Harness(40).at(0), -1);
+        Check.due("line(0) of a new object", new Harness(40).line(0), -1);
     }
 }

@@ -1,99 +1,223 @@
 import java.math.BigDecimal;
 
-/** BUILDING and LITERALS, which promises 8 and 9 rest on. */
+/** The terms of LITERALS, which promises 8 and 9 rest on. */
 public final class LiteralTest {
     private static final int MIN = Integer.MIN_VALUE;
     private static final int MAX = Integer.MAX_VALUE;
 
     public static void main(String[] args) {
-        booleans();
-        bytesAndShorts();
-        ints();
-        longs();
-        doubles();
-        floats();
-        floatsAgainstTheLibrary();
-        characters();
-        texts();
-        arrays();
-        arraysOfEveryName();
-        objects();
-        objectsInObjects();
-        objectsInTheResult();
-        arraysAndObjectsMixed();
-        Check.end();
+        Check.sentences(LiteralTest.class);
     }
 
     private static void due(String type, String want, int... row) {
         Check.due("the LITERAL of " + type + " from " + java.util.Arrays.toString(row), Harness.literalOf(type, row), want);
     }
 
-    private static void booleans() {
-        due("Z", "true", 1);
-        due("Z", "true", -1);
-        due("Z", "true", -3);
-        due("Z", "true", MAX);
-        due("Z", "false", 0);
-        due("Z", "false", 2);
-        due("Z", "false", -2);
-        due("Z", "false", MIN);
-    }
-
-    private static void bytesAndShorts() {
-        due("B", "(byte) 127", 127);
-        due("B", "(byte) -128", 128);
-        due("B", "(byte) -1", 255);
-        due("B", "(byte) 0", 256);
-        due("B", "(byte) 0", MIN);
-        due("B", "(byte) -1", MAX);
-        due("S", "(short) 32767", 32767);
-        due("S", "(short) -32768", 32768);
-        due("S", "(short) 0", 65536);
-        due("S", "(short) -1", MAX);
-    }
-
-    private static void ints() {
-        due("I", "0", 0);
-        due("I", "9", 9);
-        due("I", "-9", -9);
-        due("I", "-99", -99);
-        due("I", "10", 10);
-        due("I", "-10", -10);
-        due("I", "2147483647", MAX);
-        due("I", "-2147483647", -MAX);
-        due("I", "Integer.MIN_VALUE", MIN);
-    }
-
-    private static void longs() {
-        due("J", "0L", 0, 0);
-        due("J", "7L", 0, 7);
-        due("J", "4294967295L", 0, -1);
-        due("J", "2147483648L", 0, MIN);
-        due("J", "4294967296L", 1, 0);
-        due("J", "-4294967296L", -1, 0);
-        due("J", "-1L", -1, -1);
-        due("J", "9223372036854775807L", MAX, -1);
-        due("J", "-9223372036854775807L", MIN, 1);
-        due("J", "Long.MIN_VALUE", MIN, 0);
-        due("J", "1000000000000000000L", 232830643, -1486618624);
-        due("J", "-2147483648L", -1, MIN);
-    }
-
-    private static void doubles() {
-        String[] eighths = {"0.0", "0.125", "0.25", "0.375", "0.5", "0.625", "0.75", "0.875", "1.0"};
-        for (int i = 0; i <= 8; i++) {
-            due("D", eighths[i], i);
-            due("D", i == 0 ? "0.0" : "-" + eighths[i], -i);
+    @Sentence(promise = {8, 9}, under = "Terms, literals", says = "A NUMBER n in decimal; its LITERAL, by its TYPE:")
+    static void numbersAreDecimal() {
+        int power = 1;
+        for (int digits = 1; digits <= 10; digits++) {
+            due("I", String.valueOf(power), power);
+            due("I", "-" + power, -power);
+            due("I", String.valueOf(power - 1), power - 1);
+            due("I", String.valueOf(1 - power), 1 - power);
+            power *= 10;
         }
+        long longPower = 1;
+        for (int digits = 1; digits <= 19; digits++) {
+            for (long n : new long[] {longPower, -longPower, longPower - 1, 1 - longPower}) {
+                due("J", n + "L", (int) (n >> 32), (int) n);
+            }
+            longPower *= 10;
+        }
+    }
+
+    @Sentence(promise = {8, 9}, under = "Terms, literals", says = "Z: true, false.")
+    static void booleans() {
+        due("Z", "true", 1);
+        due("Z", "false", 0);
+    }
+
+    @Sentence(promise = {8, 9}, under = "Terms, literals", says = "B: \"(byte) \" and NUMBER.")
+    static void bytes() {
+        for (int n = -128; n <= 127; n++) {
+            due("B", "(byte) " + n, n);
+        }
+    }
+
+    @Sentence(promise = {8, 9}, under = "Terms, literals", says = "S: \"(short) \" and NUMBER.")
+    static void shorts() {
+        for (int n : new int[] {-32768, -32767, -1, 0, 1, 9, 10, 32766, 32767}) {
+            due("S", "(short) " + n, n);
+        }
+    }
+
+    @Sentence(promise = {8, 9}, under = "Terms, literals", says = "C: ' CHARACTER '.")
+    static void chars() {
+        due("C", "'a'", 'a');
+        due("C", "'\\u0000'", 0);
+        due("C", "'\\uFFFF'", 65535);
+        due("[C", "new char[] {',', ' '}", 2, ',', ' ');
+    }
+
+    @Sentence(promise = {8, 9}, under = "Terms, literals", says = "I: NUMBER, or Integer.MIN_VALUE.")
+    static void ints() {
+        due("I", "Integer.MIN_VALUE", MIN);
+        due("I", "-2147483647", MIN + 1);
+        due("I", "2147483647", MAX);
+        due("I", "0", 0);
+        due("[I", "new int[] {Integer.MIN_VALUE, -1}", 2, MIN, -1);
+    }
+
+    @Sentence(promise = {8, 9}, under = "Terms, literals", says = "J: NUMBER and L, or Long.MIN_VALUE.")
+    static void longs() {
+        due("J", "Long.MIN_VALUE", MIN, 0);
+        due("J", "-9223372036854775807L", MIN, 1);
+        due("J", "9223372036854775807L", MAX, -1);
+        due("J", "-2147483648L", -1, MIN);
+        due("J", "0L", 0, 0);
+        due("[J", "new long[] {Long.MIN_VALUE, -1L}", 2, MIN, 0, -1, -1);
+    }
+
+    @Sentence(promise = {8, 9}, under = "Terms, literals",
+        says = "F, D: the exact decimal number with at least one digit behind the point and no 0 too much at the end,")
+    static void pointNumbers() {
+        String[] decimals = {"12.0", "12.125", "12.25", "12.375", "12.5", "12.625", "12.75", "12.875"};
+        for (int i = 0; i < 8; i++) {
+            due("D", decimals[i], 96 + i);
+            due("D", "-" + decimals[i], -96 - i);
+            due("F", decimals[i] + "f", 96 + i);
+            due("F", "-" + decimals[i] + "f", -96 - i);
+        }
+        due("D", "-0.125", -1);
         due("D", "10.0", 80);
-        due("D", "2097152.125", 16777217);
-        due("D", "268435455.875", MAX);
+        due("D", "100000000.0", 800000000);
+        due("F", "100000000.0f", 800000000);
         due("D", "-268435456.0", MIN);
     }
 
-    private static void floats() {
+    @Sentence(promise = {8, 9}, under = "Terms, literals", says = "f behind it for F (0.0 for 0).")
+    static void zeroHasAPoint() {
+        due("D", "0.0", 0);
         due("F", "0.0f", 0);
-        due("F", "-0.125f", -1);
+        due("F", "1.0f", 8);
+        due("[F", "new float[] {0.0f, -1.0f}", 2, 0, -8);
+        due("[D", "new double[] {0.0, -1.0}", 2, 0, -8);
+    }
+
+    @Sentence(promise = {8, 9}, under = "Terms, literals", says = "T: \" CHARACTERS \".")
+    static void texts() {
+        due("T", "\"\"", 0);
+        due("T", "\"a\"", 1, 'a');
+        due("T", "\" , )\"", 4, ' ', ',', ' ', ')');
+        due("T", "\"null\"", 4, 'n', 'u', 'l', 'l');
+    }
+
+    @Sentence(promise = {8, 9}, under = "Terms, literals",
+        says = "An array: \"new \", its ARRAY NAME, \" {\", its values, \"}\";")
+    static void arrays() {
+        due("[I", "new int[] {}", 0);
+        due("[I", "new int[] {5}", 1, 5);
+        due("[I", "new int[] {5, 6, 7}", 3, 5, 6, 7);
+        due("[[[D", "new double[][][] {}", 0);
+        Harness h = new Harness(120).withFields(0, "[I").withParameters("[O0");
+        Check.due("an array of an object in an array", h.bodyFrom(1, 1, 1, 9),
+            "Target.run(new C0[] {new C0(new int[] {9})});\n");
+    }
+
+    @Sentence(promise = {8, 9}, under = "Terms, literals",
+        says = "but as a value of an array itself just \"{\", its values, \"}\".")
+    static void arraysInArrays() {
+        due("[[I", "new int[][] {{}, {5}, {6, 7}}", 3, 0, 1, 5, 2, 6, 7);
+        due("[[[T", "new String[][][] {{{\"\"}, {}}, {}}", 2, 2, 1, 0, 0, 0);
+    }
+
+    @Sentence(promise = {8, 9}, under = "Terms, literals",
+        says = "An object: \"new C\", the CLASS's digit, \"(\", its values, \")\".")
+    static void objects() {
+        for (int k = 0; k <= 3; k++) {
+            due("O" + k, "new C" + k + "()", 0);
+            Harness h = new Harness(120).withFields(k, "IZ").withParameters("O" + k);
+            Check.due("an object of CLASS " + k, h.bodyFrom(0, 1, 1), "Target.run(new C" + k + "(1, true));\n");
+        }
+    }
+
+    @Sentence(promise = {8, 9}, under = "Terms, literals", says = "null of all: null.")
+    static void nulls() {
+        for (String type : new String[] {"T", "[I", "[[[T", "O0", "O3", "[O1"}) {
+            due(type, "null", -1);
+        }
+        due("[T", "new String[] {null, \"\", null}", 3, -1, 0, -1);
+        due("[[Z", "new boolean[][] {null, {}}", 2, -1, 0);
+        due("[O2", "new C2[] {null, new C2()}", 2, -1, 0);
+    }
+
+    @Sentence(promise = {8, 9}, under = "Terms, literals", says = "Values are separated by a comma and a blank.")
+    static void separators() {
+        Harness h = new Harness(120).withFields(0, "IIII").withParameters("[I[[ZO0I");
+        Check.due("values of arrays, objects and calls", h.bodyFrom(3, 1, 2, 3, 2, 2, 1, 0, 1, 1, 0, 4, 5, 6, 7, 8),
+            "Target.run(new int[] {1, 2, 3}, new boolean[][] {{true, false}, {true}}, new C0(4, 5, 6, 7), 8);\n");
+        due("[I", "new int[] {1}", 1, 1);
+        due("[I", "new int[] {}", 0, 1);
+    }
+
+    @Sentence(promise = {8, 9}, under = "Terms, literals",
+        says = "ARRAY NAME: boolean byte char short int long float double String, C and digit, and [] for each [.")
+    static void arrayNames() {
+        String[] types = {"Z", "B", "C", "S", "I", "J", "F", "D", "T", "O0", "O1", "O2", "O3"};
+        String[] names = {"boolean", "byte", "char", "short", "int", "long", "float", "double", "String", "C0", "C1", "C2", "C3"};
+        for (int i = 0; i < names.length; i++) {
+            due("[" + types[i], "new " + names[i] + "[] {}");
+            due("[[" + types[i], "new " + names[i] + "[][] {}");
+            due("[[[" + types[i], "new " + names[i] + "[][][] {}");
+        }
+    }
+
+    @Sentence(promise = {8, 9}, under = "Terms, literals", says = "CHARACTER: \\n \\t \\r \\\\ for 10, 9, 13 and the backslash;")
+    static void namedCharacters() {
+        int[] characters = {10, 9, 13, '\\'};
+        String[] names = {"\\n", "\\t", "\\r", "\\\\"};
+        for (int i = 0; i < 4; i++) {
+            due("C", "'" + names[i] + "'", characters[i]);
+            due("T", "\"" + names[i] + names[i] + "\"", 2, characters[i], characters[i]);
+        }
+        due("T", "\"\\n\\t\\r\\\\\"", 4, 10, 9, 13, '\\');
+    }
+
+    @Sentence(promise = {8, 9}, under = "Terms, literals", says = "' in '..' and \" in \"..\" with a \\ before it;")
+    static void quotesInQuotes() {
+        due("C", "'\\''", '\'');
+        due("C", "'\"'", '"');
+        due("T", "\"'\\\"'\\\"\"", 4, '\'', '"', '\'', '"');
+    }
+
+    @Sentence(promise = {8, 9}, under = "Terms, literals", says = "32 to 126 as it is;")
+    static void plainCharacters() {
+        for (int c = 32; c <= 126; c++) {
+            if (c != '\\' && c != '\'') {
+                due("C", "'" + (char) c + "'", c);
+            }
+            if (c != '\\' && c != '"') {
+                due("T", "\"" + (char) c + "\"", 1, c);
+            }
+        }
+    }
+
+    @Sentence(promise = {8, 9}, under = "Terms, literals", says = "others \\u and four digits in base 16 with A .. F.")
+    static void otherCharacters() {
+        int[] edges = {127, 128, 160, 255, 256, 4095, 4096, 0x9ABC, 0xABCD, 0xD800, 0xDFFF, 0xEF09, 0xFFFE, 0xFFFF};
+        for (int c = 0; c < 32 + edges.length; c++) {
+            int x = c < 32 ? c : edges[c - 32];
+            if (x != 9 && x != 10 && x != 13) {
+                due("C", String.format("'\\u%04X'", x), x);
+                due("T", String.format("\"\\u%04X\"", x), 1, x);
+            }
+        }
+    }
+
+    @Sentence(promise = {8, 9}, under = "Terms, literals",
+        says = "A float takes the nearest of its format's numbers to the int / 8 (24 bits, halves to the even one),")
+    static void floatsAreRounded() {
         due("F", "2097151.875f", 16777215);
         due("F", "2097152.0f", 16777216);
         due("F", "2097152.0f", 16777217);
@@ -101,12 +225,18 @@ public final class LiteralTest {
         due("F", "2097152.5f", 16777219);
         due("F", "-2097152.0f", -16777217);
         due("F", "-2097152.5f", -16777219);
-        due("F", "16777216.0f", 134217729);
+        due("F", "4194304.0f", 33554434);
+        due("F", "4194304.5f", 33554435);
+        due("F", "4194305.0f", 33554438);
         due("F", "268435456.0f", MAX);
+        due("F", "268435456.0f", MAX - 63);
+        due("F", "268435440.0f", MAX - 64);
         due("F", "-268435456.0f", MIN);
+        due("D", "2097152.125", 16777217);
     }
 
-    private static void floatsAgainstTheLibrary() {
+    @Sentence(promise = {8, 9}, under = "Terms, literals", says = "and its LITERAL is that number exactly.")
+    static void floatsAreWrittenExactly() {
         for (int shift = 0; shift < 31; shift++) {
             for (int off = -70; off <= 70; off++) {
                 int x = (1 << shift) + off;
@@ -114,113 +244,7 @@ public final class LiteralTest {
                 due("F", (exact.contains(".") ? exact : exact + ".0") + "f", x);
             }
         }
-    }
-
-    private static void characters() {
-        due("C", "'a'", 'a');
-        due("C", "' '", 32);
-        due("C", "'~'", 126);
-        due("C", "'\\n'", 10);
-        due("C", "'\\t'", 9);
-        due("C", "'\\r'", 13);
-        due("C", "'\\\\'", '\\');
-        due("C", "'\\''", '\'');
-        due("C", "'\"'", '"');
-        due("C", "'\\u0000'", 0);
-        due("C", "'\\u001F'", 31);
-        due("C", "'\\u007F'", 127);
-        due("C", "'\\u0080'", 128);
-        due("C", "'\\u000B'", 11);
-        due("C", "'\\uABCD'", 0xABCD);
-        due("C", "'\\uFFFF'", -1);
-        due("C", "'a'", 65536 + 'a');
-    }
-
-    private static void texts() {
-        due("T", "null", -1, 'a');
-        due("T", "null", MIN);
-        due("T", "\"\"", 0, 'a');
-        due("T", "\"\"", 5, 'a');
-        due("T", "\"abcd\"", 4, 'a', 'b', 'c', 'd', 'e');
-        due("T", "\"ab\"", MAX, 'a', 'b', 'c');
-        due("T", "\"\\n\\t\\r\\\\\"", 9, 10, 9, 13, '\\');
-        due("T", "\"'\\\"\\uFFFF \"", 4, '\'', '"', -1, 65536 + ' ');
-        due("T", "\"null\"", 4, 'n', 'u', 'l', 'l');
-    }
-
-    private static void arrays() {
-        due("[I", "null", -1, 5);
-        due("[I", "new int[] {}", 0, 5);
-        due("[I", "new int[] {}", 4, 5);
-        due("[I", "new int[] {5, 6, 7}", 3, 5, 6, 7, 8);
-        due("[I", "new int[] {5, 6, 7}", MAX, 5, 6, 7, 8);
-        due("[[I", "new int[][] {{1}, null, {}}", 3, 1, 1, -1, 0);
-        due("[[[I", "new int[][][] {{{1, 2}, {3}}, null, {null, {}}}", 3, 2, 2, 1, 2, 1, 3, -9, 2, -9, 0);
-        due("[T", "new String[] {\"a\", null, \"\"}", 3, 1, 'a', -1, 0);
-        due("[B", "new byte[] {(byte) 1, (byte) -1}", 2, 1, -1);
-        due("[Z", "new boolean[] {true, false}", 2, 1, 2);
-        due("[F", "new float[] {0.5f, -1.0f}", 2, 4, -8);
-    }
-
-    private static void arraysOfEveryName() {
-        String letters = "ZBCSIJFDT";
-        String[] names = {"boolean", "byte", "char", "short", "int", "long", "float", "double", "String"};
-        for (int i = 0; i < names.length; i++) {
-            due("[" + letters.charAt(i), "new " + names[i] + "[] {}");
-            due("[[[" + letters.charAt(i), "new " + names[i] + "[][][] {}");
-        }
-        for (int k = 0; k < 4; k++) {
-            due("[[O" + k, "new C" + k + "[][] {null, {null, new C" + k + "()}}", 2, -1, 2, -1, 1);
-        }
-    }
-
-    private static void objects() {
-        due("O2", "null", -1);
-        due("O2", "null", MIN);
-        due("O2", "new C2()", 0);
-        due("O2", "new C2()", MAX);
-        Harness h = new Harness(120).fields(2, "ZT[IJ").parameters("O2I");
-        h.returned(3, 1, 1, 'x', 1, 8, 0, 6, 99);
-        Check.due("an object with four fields", h.onlyBody(), "Target.run(new C2(true, \"x\", new int[] {8}, 6L), 99);\n");
-        h.emitter.drop();
-        h.returned(-3, 1, 1, 'x');
-        Check.due("a null takes one int alone", h.onlyBody(), "Target.run(null, 1);\n");
-    }
-
-    private static void objectsInObjects() {
-        Harness h = new Harness(120).fields(0, "O1").fields(1, "O0I").parameters("O0I");
-        h.returned(1, 1, 1, 1, 1, 5, 6, 7);
-        Check.due("the fifth object is null, and takes its int", h.onlyBody(),
-            "Target.run(new C0(new C1(new C0(new C1(null, 5)), 6)), 7);\n");
-        h.emitter.drop();
-        h.returned(1, 1, -1, 5, 6, 7);
-        Check.due("a null on the way", h.onlyBody(), "Target.run(new C0(new C1(null, 5)), 6);\n");
-        h.fields(3, "O3O3").parameters("O3");
-        h.emitter.drop();
-        h.returned(1, 1, 1, 1, -1, -1, 1, 1, -1, 1, -1, 1, 1, -1, -1);
-        Check.due("the objects around are counted for each value", h.onlyBody(),
-            "Target.run(new C3(new C3(new C3(new C3(null, null), new C3(null, null)), new C3(null, new C3(null, null))),\n"
-            + "        null));\n");
-    }
-
-    private static void objectsInTheResult() {
-        Harness h = new Harness(120).fields(0, "O0").result("O0");
-        h.returned(1, 1, 1, 1, 1);
-        Check.due("the fifth object of the RESULT is null", h.onlyBody(),
-            "assertEquals(new C0(new C0(new C0(new C0(null)))), Target.run());\n");
-    }
-
-    private static void arraysAndObjectsMixed() {
-        Harness h = new Harness(120).fields(0, "[O0[[I").parameters("[O0").result("[[O0");
-        h.returned(1, 0, 1, 0, 0, 1, 1, 7, -1, 1, 1, -1);
-        Check.due("an array in an object has its name again", h.onlyBody(),
-            "assertArrayEquals(new C0[][] {{null}}, Target.run(new C0[] {new C0(new C0[] {new C0(new C0[] {},\n"
-            + "        new int[][] {{7}})}, null)}));\n");
-        h.fields(0, "[[O0").parameters("[[O0").result("V");
-        h.emitter.drop();
-        h.returned(1, 1, 1, 1, 1, 1, 1, 1, 1, 1, 1, 1, 1, 1, 1, 1, 1);
-        Check.due("arrays are no objects around", h.onlyBody(),
-            "Target.run(new C0[][] {{new C0(new C0[][] {{new C0(new C0[][] {{new C0(new C0[][] {{new C0(new C0[][] {{null}})"
-            + "}})}})}})}});\n");
+        due("F", "123456792.0f", 987654321);
+        due("F", "-15432099.0f", -123456789);
     }
 }
