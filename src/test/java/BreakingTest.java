@@ -42,6 +42,8 @@ public final class BreakingTest {
             "Target.run(\", \\u0001\\u0001\", 7);\n");
         Check.due("no other comma below the width", broken(40, "TII", 4, 1, ',', ' ', 1, 1000000000, 1),
             "Target.run(\"\\u0001, \\u0001\",\n        1000000000, 1);\n");
+        Check.due("a comma at 38 as a char", broken(40, "IICI", 1234567, 1234567, ',', 12345),
+            "Target.run(1234567, 1234567,\n        ',', 12345);\n");
         Check.due("commas as chars", broken(40, "CCCC", ',', ',', ',', 1),
             "Target.run(',', ',', ',',\n        '\\u0001');\n");
     }

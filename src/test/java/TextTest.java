@@ -26,9 +26,12 @@ public final class TextTest {
 
     /** Twenty TESTS whose CALLS are broken to the least width as often as they can be, emitted. */
     private static Harness largest() {
-        Harness h = new Harness(40).withParameters("[[T[[T[[T");
-        h.withData(3, 3, 1, 'a', -1, -1, 3, -1, -1, -1, 3, -1, -1, -1, 3, 3, -1, -1, -1, 3, -1, -1, -1, 3, -1, -1, -1, 2, 3, -1,
-            -1, -1, 1);
+        int[] row = new int[40];
+        for (int i = 0; i < 39; i++) {
+            boolean isLength = i % 13 == 0 || i % 13 % 4 == 1;
+            row[i + 1] = isLength ? 3 : 1000 + i;
+        }
+        Harness h = new Harness(40).withParameters("I[[I[[I[[I").withData(row);
         for (int i = 0; i < 20; i++) {
             h.threw("E".repeat(i % 10) + (char) ('A' + i));
         }
@@ -276,7 +279,8 @@ public final class TextTest {
         Check.due("count(6) after another emit()", again.count(6), 2);
         Harness large = largest();
         int unbroken = 2 + 20 * 8 + 19;
-        Check.due("count(6) of the largest text", large.count(6), large.count(4) - unbroken);
+        Check.due("count(6) of the largest text", large.count(6), 20 * 12);
+        Check.due("its other lines", large.count(4) - large.count(6), unbroken);
         Check.due("count(6) without long lines", threeTests().count(6), 0);
     }
 

@@ -25,6 +25,12 @@ public final class TrialTest {
         String before = h.emitted();
         h.withFields(0, "ZZ").withParameters("I").withResult("J").withData(9, 9).typed("Other");
         Check.due("THE TEXT after all was changed", h.emitted(), before);
+        Harness two = new Harness(120).withParameters("I");
+        two.returnedFrom(1);
+        two.returnedFrom(2);
+        String text = two.emitted();
+        Check.due("the first body after the second", text.contains("        Target.run(1);\n") ? 1 : 0, 1);
+        Check.due("the second body", text.contains("        Target.run(2);\n") ? 1 : 0, 1);
     }
 
     @Sentence(promise = {8, 9}, under = "Terms, tests",
@@ -222,7 +228,8 @@ public final class TrialTest {
         Check.due("returned() of 1 with another RESULT", h.returnedFrom(1, 2), 5);
         Check.due("returned() of a body that begins as another", h.returnedFrom(1, 22), 6);
         h.drop();
-        Check.due("returned() of what was dropped", h.returnedFrom(1, 1), 0);
+        h.withResult("V");
+        Check.due("returned() of what was dropped", h.returnedFrom(1), 0);
     }
 
     @Sentence(promise = 8, says = "20 TESTS: FULL;")
