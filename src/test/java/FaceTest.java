@@ -1,5 +1,6 @@
 import java.lang.reflect.Constructor;
 import java.lang.reflect.Field;
+import java.lang.reflect.Member;
 import java.lang.reflect.Method;
 import java.lang.reflect.Modifier;
 import java.util.Set;
@@ -16,23 +17,39 @@ public final class FaceTest {
     private static void faceIsTheDocuments() {
         Set<String> visible = new TreeSet<>();
         for (Field f : TestEmitter.class.getDeclaredFields()) {
-            if (!Modifier.isPrivate(f.getModifiers())) {
-                visible.add(f.getName());
-            }
+            addVisible(visible, f, f.toString());
         }
         for (Method m : TestEmitter.class.getDeclaredMethods()) {
-            if (!Modifier.isPrivate(m.getModifiers())) {
-                visible.add(m.getReturnType() + " " + m.getName() + m.getParameterCount());
-            }
+            addVisible(visible, m, m.toString());
         }
         for (Constructor<?> c : TestEmitter.class.getDeclaredConstructors()) {
-            visible.add("new" + c.getParameterCount());
+            addVisible(visible, c, c.toString());
         }
-        Check.due("the face", visible.toString(), new TreeSet<>(Set.of("REFUSED", "FULL", "BAD", "SAME", "LONG",
-            "new1", "int type1", "int fields1", "int parameters0", "int result0", "int data1", "int clear0",
-            "int returned0", "int threw0", "int taken0", "int drop0", "int emit0", "int at1", "int line1",
-            "int count1")).toString());
-        Check.due("the class is final", Modifier.isFinal(TestEmitter.class.getModifiers()) ? 1 : 0, 1);
+        Check.due("the face", visible.toString(), faceOfTheDocument().toString());
+        Check.due("the class", Modifier.toString(TestEmitter.class.getModifiers()), "public final");
+        Check.due("what the class extends", TestEmitter.class.getSuperclass().getName(), "java.lang.Object");
+        Check.due("how many interfaces it implements", TestEmitter.class.getInterfaces().length, 0);
+    }
+
+    private static void addVisible(Set<String> visible, Member member, String face) {
+        if (!Modifier.isPrivate(member.getModifiers())) {
+            visible.add(face.replace("TestEmitter.", ""));
+        }
+    }
+
+    private static Set<String> faceOfTheDocument() {
+        Set<String> face = new TreeSet<>();
+        face.add("public TestEmitter(int)");
+        for (String name : new String[] {"REFUSED", "FULL", "BAD", "SAME", "LONG"}) {
+            face.add("public static final int " + name);
+        }
+        for (String name : new String[] {"type", "fields", "data", "at", "line", "count"}) {
+            face.add("public int " + name + "(int)");
+        }
+        for (String name : new String[] {"parameters", "result", "clear", "returned", "threw", "taken", "drop", "emit"}) {
+            face.add("public int " + name + "()");
+        }
+        return face;
     }
 
     private static void constantsHaveTheirValues() {
